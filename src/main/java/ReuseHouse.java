@@ -405,8 +405,14 @@ public final class ReuseHouse {
             tail = NONE;
         }
 
-        int append(int operation, int where) {
-            return insertBehind(tail, operation, where);
+        int append(int operation, int where, int number) {
+            int row = insertBehind(tail, operation, where);
+            a[row] = number;
+            return row;
+        }
+
+        void appendStep(int where) {
+            insertBehind(tail, OP_STEP, where);
         }
 
         int insertBehind(int before, int operation, int where) {
@@ -481,7 +487,7 @@ public final class ReuseHouse {
 
         int add(long name) {
             if (size >= MOST_KINDS) {
-                return NONE;
+                return MOST_KINDS - 1;
             }
             word[size] = name;
             fields[size] = NONE;
@@ -582,7 +588,10 @@ public final class ReuseHouse {
             faultNumber = 0;
             faultPlace = NONE;
             try {
-                definitions();
+                for (int i = 0; i <= MOST_FUNCTIONS && (i == 0 || tokens.sort == T_FUN); i++) {
+                    definition();
+                }
+                expect(T_END);
                 resolveCalls();
             } catch (IllegalStateException met) {
                 return false;
@@ -619,15 +628,6 @@ public final class ReuseHouse {
             tokens.advance();
         }
 
-        private void definitions() {
-            for (int i = 0; i <= MOST_FUNCTIONS && (i == 0 || tokens.sort == T_FUN); i++) {
-                definition();
-            }
-            if (tokens.sort != T_END) {
-                failForm();
-            }
-        }
-
         private void definition() {
             if (tokens.sort == T_FUN && draft.functions.size >= MOST_FUNCTIONS) {
                 failMany();
@@ -643,13 +643,11 @@ public final class ReuseHouse {
             tokens.advance();
             around = 0;
             toldNames();
-            int enter = draft.code.append(OP_ENTER, tokens.place);
-            draft.code.a[enter] = function;
-            draft.functions.enter[function] = enter;
+            draft.functions.enter[function] = draft.code.append(OP_ENTER, tokens.place, function);
             expect('=');
             expression(1);
             expect(';');
-            draft.code.append(OP_RETURN, tokens.place);
+            draft.code.append(OP_RETURN, tokens.place, NONE);
         }
 
         private void toldNames() {
@@ -734,7 +732,7 @@ public final class ReuseHouse {
         }
 
         private void letExpression(int depth) {
-            draft.code.append(OP_STEP, tokens.place);
+            draft.code.appendStep(tokens.place);
             tokens.advance();
             newName();
             long name = tokens.word;
@@ -742,22 +740,21 @@ public final class ReuseHouse {
             expect('=');
             expression(depth + 1);
             expect(T_IN);
-            int let = draft.code.append(OP_LET, tokens.place);
-            draft.code.a[let] = tell(name);
+            draft.code.append(OP_LET, tokens.place, tell(name));
             expression(depth + 1);
             around--;
         }
 
         private void ifExpression(int depth) {
             int place = tokens.place;
-            draft.code.append(OP_STEP, place);
+            draft.code.appendStep(place);
             tokens.advance();
             expression(depth + 1);
             expect(T_THEN);
-            int choice = draft.code.append(OP_IF, place);
+            int choice = draft.code.append(OP_IF, place, NONE);
             expression(depth + 1);
             expect(T_ELSE);
-            int jump = draft.code.append(OP_JUMP, place);
+            int jump = draft.code.append(OP_JUMP, place, NONE);
             draft.code.a[choice] = jump;
             expression(depth + 1);
             draft.code.a[jump] = draft.code.tail;
@@ -765,7 +762,7 @@ public final class ReuseHouse {
 
         private void matchExpression(int depth) {
             int place = tokens.place;
-            draft.code.append(OP_STEP, place);
+            draft.code.appendStep(place);
             tokens.advance();
             if (tokens.sort != T_NAME) {
                 failForm();
@@ -776,8 +773,7 @@ public final class ReuseHouse {
             }
             tokens.advance();
             expect('{');
-            int match = draft.code.append(OP_MATCH, place);
-            draft.code.a[match] = slot;
+            int match = draft.code.append(OP_MATCH, place, slot);
             draft.functions.oneMore(function, ABOUT_MATCHES);
             int last = NONE;
             boolean more = true;
@@ -836,7 +832,7 @@ public final class ReuseHouse {
             draft.arms.before[arm] = draft.code.tail;
             expression(depth + 1);
             draft.arms.builds[arm] = (built[1] > one ? 2 : 0) | (built[2] > two ? 4 : 0) | (built[3] > three ? 8 : 0);
-            draft.arms.leave[arm] = draft.code.append(OP_LEAVE, tokens.place);
+            draft.arms.leave[arm] = draft.code.append(OP_LEAVE, tokens.place, NONE);
         }
 
         private void refuseKindTwice(int match) {
@@ -896,7 +892,7 @@ public final class ReuseHouse {
                 draft.code.insertBehind(before, OP_STEP, place);
                 tokens.advance();
                 sum(depth);
-                draft.code.append(OP_LESS, place);
+                draft.code.append(OP_LESS, place, NONE);
             }
         }
 
@@ -909,7 +905,7 @@ public final class ReuseHouse {
                 draft.code.insertBehind(before, OP_STEP, place);
                 tokens.advance();
                 part(depth);
-                draft.code.append(operation, place);
+                draft.code.append(operation, place, NONE);
             }
         }
 
@@ -921,14 +917,14 @@ public final class ReuseHouse {
                 draft.code.insertBehind(before, OP_STEP, place);
                 tokens.advance();
                 atom(depth);
-                draft.code.append(OP_MULTIPLY, place);
+                draft.code.append(OP_MULTIPLY, place, NONE);
             }
         }
 
         private void atom(int depth) {
             switch (tokens.sort) {
                 case T_NUMBER:
-                    draft.code.a[draft.code.append(OP_NUMBER, tokens.place)] = (int) tokens.word;
+                    draft.code.append(OP_NUMBER, tokens.place, (int) tokens.word);
                     tokens.advance();
                     break;
                 case T_NAME:
@@ -953,11 +949,11 @@ public final class ReuseHouse {
             int slot = slotOf(tokens.word);
             tokens.advance();
             if (tokens.sort == '(') {
-                draft.code.append(OP_STEP, place);
+                draft.code.appendStep(place);
                 int count = arguments(depth, TAPE_BYTES);
                 writeCall(OP_CALL, place, token, count);
             } else if (slot != NONE) {
-                draft.code.a[draft.code.append(OP_NAME, place)] = slot;
+                draft.code.append(OP_NAME, place, slot);
             } else {
                 writeCall(OP_CALL_ALONE, place, token, 0);
             }
@@ -965,9 +961,7 @@ public final class ReuseHouse {
 
         /** The function may be told further on: until then the row has its name's token. */
         private void writeCall(int operation, int place, int token, int count) {
-            int row = draft.code.append(operation, place);
-            draft.code.a[row] = token;
-            draft.code.b[row] = count;
+            draft.code.b[draft.code.append(operation, place, token)] = count;
         }
 
         private void kindAtom(int depth) {
@@ -975,15 +969,15 @@ public final class ReuseHouse {
             int kind = kindAtHand();
             tokens.advance();
             if (tokens.sort == '(') {
-                draft.code.append(OP_STEP, place);
+                draft.code.appendStep(place);
                 int fields = arguments(depth, MOST_FIELDS);
                 toldToEnd(kind, fields, place);
-                draft.code.a[draft.code.append(OP_KIND, place)] = kind;
+                draft.code.append(OP_KIND, place, kind);
                 built[fields]++;
                 draft.functions.oneMore(function, ABOUT_KINDS);
             } else {
                 toldToEnd(kind, 0, place);
-                draft.code.a[draft.code.append(OP_KIND_ALONE, place)] = kind;
+                draft.code.append(OP_KIND_ALONE, place, kind);
             }
         }
 
@@ -1399,7 +1393,7 @@ public final class ReuseHouse {
             if (!counted) {
                 return;
             }
-            for (int slot = 0; slot < MOST_NAMES; slot++) {
+            for (int slot = 0; slot < MOST_NAMES && names >> slot != 0; slot++) {
                 if (has(names, slot)) {
                     cells.drop(stack[base + slot]);
                 }

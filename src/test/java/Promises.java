@@ -1,4 +1,5 @@
 import java.util.NoSuchElementException;
+import java.util.Random;
 
 /** Each promise of the document: ordinary inputs, edges, wrong inputs. */
 public final class Promises {
@@ -32,6 +33,7 @@ public final class Promises {
         out();
         release();
         count();
+        anyCalls();
         System.out.println(wrong == 0 ? "all promises hold" : wrong + " answers are not as due");
         if (wrong != 0) {
             System.exit(1);
@@ -574,6 +576,11 @@ public final class Promises {
         due("shells of another call are not taken",
             counts(with("fun f a = let b = P(1, 2) in match b { P(c, d) -> let x = g(c) in P(x, d) } ; "
                 + "fun g y = P(y, y) ;"), 0, 400, 1), "1: 2 1 0 2 0 2");
+        due("nor those of a call that is open",
+            counts(with("fun f a = let b = P(1, 2) in match b { P(c, d) -> if a then g(c) else P(c, d) } ; "
+                + "fun g y = P(y, y) ;"), 0, 400, 1), "1: 2 0 1 2 0 1");
+        due("freed at once where none is built",
+            counts(with("fun f a = let b = B(a) in match b { B(c) -> P(c, c) } ;"), 0, 1, 1), "1: 2 0 1 1 0 1");
         due("behind its arguments",
             counts(with("fun f a = let b = P(1, 2) in match b { P(c, d) -> P(P(c, d), 3) } ;"), 0, 400, 1),
             "1: 2 1 0 2 0 2");
@@ -727,5 +734,48 @@ public final class Promises {
         due("held behind one that has not ended", house.count(6), 0);
         due("refused", house.run(2, 400, -1, 3, 0, 0, 0), -1);
         due("nothing changes", house.count(0), 20);
+    }
+
+    /** Calls in any order with any numbers: nothing but out() throws, and no answer is below NONE. */
+    private static void anyCalls() {
+        now = "any calls";
+        int[] numbers = {Integer.MIN_VALUE, -2, -1, 0, 1, 2, 3, 5, 20, 60, 400, 401, 2000, 20000, 20001, Integer.MAX_VALUE};
+        String[] texts = {LISTS, "fun f a = let b = A(a) in P(b, b) ;", "fun f a b = f(b, a) ;", "fun f = 1 + A ;", "?"};
+        for (int seed = 0; seed < 300; seed++) {
+            Random random = new Random(seed);
+            ReuseHouse house = new ReuseHouse();
+            for (int i = 0; i < 200; i++) {
+                int[] n = new int[7];
+                for (int k = 0; k < n.length; k++) {
+                    n[k] = numbers[random.nextInt(numbers.length)];
+                }
+                try {
+                    int answer = anyCall(house, random, n, texts);
+                    due("an answer is NONE or more", answer >= ReuseHouse.NONE ? 1 : 0, 1);
+                } catch (RuntimeException thrown) {
+                    due("call " + i + " of seed " + seed + " threw " + thrown, 1, 0);
+                }
+            }
+        }
+    }
+
+    private static int anyCall(ReuseHouse house, Random random, int[] n, String[] texts) {
+        switch (random.nextInt(13)) {
+            case 0: return house.feed(n[0], n[1], n[2], n[3], n[4]);
+            case 1: return house.program(n[0]);
+            case 2: return house.fault();
+            case 3: return house.where();
+            case 4: return house.about(n[0], n[1]);
+            case 5: return house.run(n[0], n[1], n[2], n[3], n[4], n[5], n[6]);
+            case 6: return house.plain(n[0], n[1], n[2], n[3], n[4], n[5]);
+            case 7: return house.show(random.nextBoolean());
+            case 8: return throwsAt(house, n[0]) ? 0 : house.out(n[0]);
+            case 9: return house.release();
+            case 10: return house.count(n[0]);
+            case 11: return house.run(random.nextInt(3), random.nextInt(10), 20000, n[0], n[1], n[2], n[3]);
+            default:
+                house.program(0);
+                return take(house, texts[random.nextInt(texts.length)]);
+        }
     }
 }
