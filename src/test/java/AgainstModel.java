@@ -76,7 +76,7 @@ public final class AgainstModel {
                 ReuseHouse house = new ReuseHouse();
                 compareProgram(house, text);
                 due("a hard program is taken", text, house.fault(), 0);
-                compareRuns(house, text, new Random(seed));
+                compareRuns(text, new Random(seed));
             }
         }
     }
@@ -87,10 +87,11 @@ public final class AgainstModel {
             for (int seed = 0; seed < 3000; seed++) {
                 Random random = new Random(seed);
                 String text = new Maker(random).program();
+                compareProgram(new ReuseHouse(), text);
+                compareRuns(text, random);
                 ReuseHouse house = new ReuseHouse();
-                compareProgram(house, text);
-                compareRuns(house, text, random);
                 for (int i = 0; i < 6; i++) {
+                    house = i % 3 == 0 ? new ReuseHouse() : house;
                     compareProgram(house, spoiled(text, random));
                 }
             }
@@ -163,35 +164,44 @@ public final class AgainstModel {
         }
     }
 
-    private static void compareRuns(ReuseHouse house, String text, Random random) {
+    /** An object is used for two rounds of one function: the document promises 512 calls and no more. */
+    private static void compareRuns(String text, Random random) {
         Reader reader = new Reader(text);
         reader.readAll();
         if (reader.fault != 0) {
             return;
         }
-        List<Function> functions = new ArrayList<>(reader.functions.values());
-        for (int f = 0; f < functions.size(); f++) {
-            int cells = random.nextInt(4) == 0 ? random.nextInt(12) : 400;
-            int steps = random.nextInt(4) == 0 ? random.nextInt(200) : 20000;
-            int a = random.nextInt(8) == 0 ? 99 : random.nextInt(12);
-            Model model = new Model(reader.functions, true, cells, steps);
-            int want = model.begin(functions.get(f), a, 2, -3, 1);
-            String which = "function " + f + " with " + cells + " cells, " + steps + " steps, " + a + ": ";
-            due(which + "run", text, house.run(f, cells, steps, a, 2, -3, 1), want);
-            ended[want]++;
-            due(which + "where", text, house.where(), model.place);
-            compareCounts(house, model, which, text);
-            compareShown(house, false, model, which + "show", text);
-            compareRelease(house, model, which, text);
-            Model plainly = new Model(reader.functions, false, 4000, steps);
-            int plain = plainly.begin(functions.get(f), a, 2, -3, 1);
-            due(which + "plain", text, house.plain(f, steps, a, 2, -3, 1), plain);
-            due(which + "plain where", text, house.where(), plainly.place);
-            compareShown(house, true, plainly, which + "plain show", text);
-            compareCounts(house, model, which + "behind plain", text);
-            if (want == 1 && plain == 1) {
-                due(which + "the values", text, model.shown().equals(plainly.shown()) ? 1 : 0, 1);
-            }
+        for (int f = 0; f < reader.functions.size(); f++) {
+            ReuseHouse house = new ReuseHouse();
+            give(house, text);
+            due("program", text, house.program(text.length()), reader.functions.size());
+            compareRun(house, reader, f, text, random);
+            compareRun(house, reader, f, text, random);
+        }
+    }
+
+    private static void compareRun(ReuseHouse house, Reader reader, int f, String text, Random random) {
+        Function function = new ArrayList<>(reader.functions.values()).get(f);
+        int cells = random.nextInt(4) == 0 ? random.nextInt(12) : 400;
+        int steps = random.nextInt(4) == 0 ? random.nextInt(200) : 20000;
+        int a = random.nextInt(8) == 0 ? 99 : random.nextInt(12);
+        Model model = new Model(reader.functions, true, cells, steps);
+        int want = model.begin(function, a, 2, -3, 1);
+        String which = "function " + f + " with " + cells + " cells, " + steps + " steps, " + a + ": ";
+        due(which + "run", text, house.run(f, cells, steps, a, 2, -3, 1), want);
+        ended[want]++;
+        due(which + "where", text, house.where(), model.place);
+        compareCounts(house, model, which, text);
+        compareShown(house, false, model, which + "show", text);
+        compareRelease(house, model, which, text);
+        Model plainly = new Model(reader.functions, false, 4000, steps);
+        int plain = plainly.begin(function, a, 2, -3, 1);
+        due(which + "plain", text, house.plain(f, steps, a, 2, -3, 1), plain);
+        due(which + "plain where", text, house.where(), plainly.place);
+        compareShown(house, true, plainly, which + "plain show", text);
+        compareCounts(house, model, which + "behind plain", text);
+        if (want == 1 && plain == 1) {
+            due(which + "the values", text, model.shown().equals(plainly.shown()) ? 1 : 0, 1);
         }
     }
 
@@ -214,7 +224,9 @@ public final class AgainstModel {
         }
         due(which, text, house.show(other), shown.length());
         for (int i = 0; i < shown.length(); i++) {
-            due(which + " out(" + i + ")", text, house.out(i), shown.charAt(i));
+            if (i < 60 || i >= shown.length() - 10) {
+                due(which + " out(" + i + ")", text, house.out(i), shown.charAt(i));
+            }
         }
     }
 
